@@ -8,6 +8,7 @@ public final class Promise10FindingTest {
         keepsEight();
         shortensToParts();
         shortensToRests();
+        shortensByGrowingAndShrinkingParts();
         shortensToNothing();
         shortensWithTheSameSignAlone();
         Expect.done();
@@ -158,6 +159,31 @@ public final class Promise10FindingTest {
             Expect.same("its place", x.finding(0, 1), 8);
             shortest(x, 0, 7, 7);
         }
+    }
+
+    /** Traps at 20 with as many bytes as many says or more, and when first and second come first, but not with 3. */
+    private static EdgeCampaign choosy(int many, int first, int second) {
+        return Expect.campaign(1, row(15, 0, 0), row(1, 1, -many), row(3, 1, 0), row(7, 1, 5), row(8, 0, 19),
+            row(1, 1, -3), row(3, 1, 0), row(6, 1, 18), row(2, 2, 3), row(1, 1, -first), row(3, 1, 2), row(6, 1, 13),
+            row(0, 0, 0), row(1, 3, 1), row(2, 2, 3), row(1, 1, -second), row(3, 1, 2), row(6, 1, 19), row(0, 0, 0),
+            row(1, 1, 0), row(12, 1, 0));
+    }
+
+    private static void shortensByGrowingAndShrinkingParts() {
+        // No half traps, nor one of the four parts 1, 2 3, 4, 5 6, but 2 .. 6, the rest without the first of them.
+        // Then there are three parts, and the second of them, 3 4, traps. With four parts it would be 3 4 5 6.
+        EdgeCampaign x = choosy(5, 3, 4);
+        Expect.same("a trap", Expect.plant(x, 1, 2, 3, 4, 5, 6), 1);
+        shortest(x, 0, 3, 4);
+        Expect.same("3 4 5 6 traps too", Expect.plant(x, 3, 4, 5, 6), 1);
+        Expect.same("hits", x.finding(0, 6), 2);
+        // Nothing traps with two and four parts, and with six 1 3 4 5 6 does, the rest without the second of them.
+        // Then there are five parts, and 1 3 5 6 traps; of its four parts, none can go. With two it would be 1 3.
+        EdgeCampaign y = choosy(6, 1, 3);
+        Expect.same("a trap", Expect.plant(y, 1, 2, 3, 4, 5, 6), 1);
+        shortest(y, 0, 1, 3, 5, 6);
+        Expect.same("1 3 traps too", Expect.plant(y, 1, 3), 1);
+        Expect.same("hits", y.finding(0, 6), 2);
     }
 
     private static void shortensToNothing() {
