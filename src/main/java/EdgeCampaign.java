@@ -689,6 +689,8 @@ public final class EdgeCampaign {
     }
 
     private static final class Generator {
+        private static final int ALL_BUT_HIGHEST_BIT = 0x7fffffff;
+
         private int x;
 
         Generator(int seed) {
@@ -699,7 +701,7 @@ public final class EdgeCampaign {
             x ^= x << 13;
             x ^= x >>> 17;
             x ^= x << 5;
-            return n > 0 ? (x & Integer.MAX_VALUE) % n : 0;
+            return n > 0 ? (x & ALL_BUT_HIGHEST_BIT) % n : 0;
         }
     }
 
