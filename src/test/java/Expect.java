@@ -2,6 +2,7 @@
 final class Expect {
     private static int asked = 0;
     private static int wrong = 0;
+    private static final int MOST_TOLD = 100;
 
     private Expect() {
     }
@@ -9,8 +10,7 @@ final class Expect {
     static void same(String what, long got, long due) {
         asked++;
         if (got != due) {
-            wrong++;
-            System.out.println(what + " answered " + got + ", due is " + due);
+            tellWrong(what + " answered " + got + ", due is " + due);
         }
     }
 
@@ -21,9 +21,24 @@ final class Expect {
     static void sameText(String what, String got, String due) {
         asked++;
         if (!got.equals(due)) {
-            wrong++;
-            System.out.println(what + ":\n  got " + got + "\n  due " + due);
+            tellWrong(what + ":\n  got " + got + "\n  due " + due);
         }
+    }
+
+    /** One fault may make thousands of answers wrong: the first ones are enough. */
+    private static void tellWrong(String text) {
+        wrong++;
+        if (wrong <= MOST_TOLD) {
+            System.out.println(text);
+        }
+    }
+
+    static int asked() {
+        return asked;
+    }
+
+    static int wrong() {
+        return wrong;
     }
 
     static void done() {
