@@ -24,7 +24,7 @@ final class DrawBoundaries {
         int[] seeds = {0, 1, -1, LEAST, Integer.MAX_VALUE};
         for (int seed : seeds) {
             EdgeCampaign x = new Probe(seed, Probe.ONE_EDGE, new int[0]).behind(0);
-            for (int i = 0; i < 400; i++) {
+            for (int i = 0; i < 240; i++) {
                 x.fuzz(20);
                 Expect.same("the state is 0", x.state() == 0, false);
             }

@@ -1,8 +1,10 @@
 /** Counts the answers that are not as due, and sets up campaigns. */
 final class Expect {
+    private static final int MOST_TOLD = 100;
+    private static final int PLACES = 8;
+
     private static int asked = 0;
     private static int wrong = 0;
-    private static final int MOST_TOLD = 100;
 
     private Expect() {
     }
@@ -68,7 +70,11 @@ final class Expect {
         return x.plant();
     }
 
-    /** All that can be asked of a campaign, so that two moments or two campaigns can be compared. */
+    /**
+     * What can be asked of a campaign whose program has eight instructions at most, so that two moments or two
+     * campaigns can be compared. The document lets an object answer 512 calls: these are less than a hundred, 12 for
+     * each entry and 23 for each finding.
+     */
     static String all(EdgeCampaign x) {
         StringBuilder text = new StringBuilder();
         for (int which = 0; which <= 6; which++) {
@@ -97,8 +103,8 @@ final class Expect {
             }
         }
         text.append("\n  seen:");
-        for (int from = 0; from < 24; from++) {
-            for (int to = 0; to < 24; to++) {
+        for (int from = 0; from < PLACES; from++) {
+            for (int to = 0; to < PLACES; to++) {
                 if (x.seen(from, to) != 0) {
                     text.append(' ').append(from).append('-').append(to).append('=').append(x.seen(from, to));
                 }

@@ -2,10 +2,16 @@
 final class JoiningBoundaries {
     private static final int SEEDS = 10;
     private static final int TRIALS = 330;
+    private static final int MOST_JOININGS = 20;
     /** An entry of each number of bytes that BY_LENGTH tells apart: no more can come. The favoured one is entry 3. */
     private static final int[][] ALL_FIVE = {{}, {21, 22}, {41, 42, 43, 44}, {11}, {31, 32, 33}};
     /** Goes along 2-3 with six bytes and along 2-4 with less: two entries at most, and both are favoured. */
     private static final int[][] SIX_OR_NOT = {{1, 1, 5}, {2, 0, 1}, {7, 0, 4}, {1, 3, 0}};
+    /** Loops as often as the first, the second and the third byte say: each number of times tells entries apart. */
+    private static final int[][] THREE_LOOPS = {
+        {1, 2, -1}, {1, 1, 0}, {2, 0, 1}, {3, 0, 2}, {7, 0, 6}, {8, 0, 3}, {1, 1, 1}, {2, 0, 1}, {3, 0, 2}, {7, 0, 11},
+        {8, 0, 8}, {1, 1, 2}, {2, 0, 1}, {3, 0, 2}, {7, 0, 16}, {8, 0, 13}
+    };
 
     private JoiningBoundaries() {
     }
@@ -32,8 +38,13 @@ final class JoiningBoundaries {
         }
     }
 
-    private static boolean joinsNext(EdgeCampaign x) {
-        return x.current(1) == 16 * x.entry(x.current(0), 0) + x.current(2);
+    /** How many trials come before the one that joins, if that comes. */
+    private static int trialsToJoining(EdgeCampaign x) {
+        return 16 * x.entry(x.current(0), 0) + x.current(2) - x.current(1);
+    }
+
+    private static void goToJoining(EdgeCampaign x) {
+        Probe.fuzz(x, trialsToJoining(x));
     }
 
     private static void joinsWithTwoOrMore() {
@@ -106,20 +117,23 @@ final class JoiningBoundaries {
     }
 
     /** Each joining of several campaigns executes what is due and leaves the state that is due. */
-    private static void followJoinings(int[][] front, int[][] planted, Look look) {
+    private static void followJoinings(int most, int[][] front, int[][] planted, Look look) {
         for (int seed = 1; seed <= SEEDS; seed++) {
             Probe probe = new Probe(seed, front, planted);
-            EdgeCampaign x = probe.behind(0);
-            for (int trials = 0; trials < TRIALS; trials++) {
-                if (!joinsNext(x)) {
-                    x.fuzz(1);
-                    continue;
-                }
+            EdgeCampaign scout = probe.behind(0);
+            int trials = 0;
+            for (int i = 0; i < MOST_JOININGS && trials + trialsToJoining(scout) < most; i++) {
+                trials += trialsToJoining(scout);
+                // A campaign of its own for each, as an object has 512 calls at most.
+                EdgeCampaign x = probe.behind(trials);
                 Joined joined = Joined.next(x);
                 probe.executes("seed " + seed + ", trial " + trials + ", " + joined, trials, joined.bytes(x));
                 look.at(x, joined);
                 x.fuzz(1);
                 Expect.same("two draws", x.state(), joined.state());
+                goToJoining(scout);
+                scout.fuzz(1);
+                trials++;
             }
         }
     }
@@ -132,7 +146,7 @@ final class JoiningBoundaries {
 
     private static void joinsWithAnother() {
         int[] times = new int[6];
-        followJoinings(Probe.BY_LENGTH, ALL_FIVE, (x, joined) -> {
+        followJoinings(TRIALS, Probe.BY_LENGTH, ALL_FIVE, (x, joined) -> {
             Expect.same("another one", joined.partner() != joined.own(), true);
             times[0] += joined.drawn() < joined.own() ? 1 : 0;
             times[1] += joined.drawn() == joined.own() ? 1 : 0;
@@ -143,16 +157,34 @@ final class JoiningBoundaries {
         });
         reached(times);
         int[] ofTwo = new int[2];
-        followJoinings(SIX_OR_NOT, new int[][] {{1, 2, 3}, {11, 12, 13, 14, 15, 16}}, (x, joined) -> {
+        followJoinings(TRIALS, SIX_OR_NOT, new int[][] {{1, 2, 3}, {11, 12, 13, 14, 15, 16}}, (x, joined) -> {
             Expect.same("the other one", joined.partner(), 1 - joined.own());
             ofTwo[joined.own()]++;
         });
         reached(ofTwo);
+        int[] ofSixteen = new int[4];
+        followJoinings(3 * TRIALS, THREE_LOOPS, sixteen(), (x, joined) -> {
+            Expect.same("a full store", x.count(3), 16);
+            ofSixteen[0] += joined.partner() == 0 ? 1 : 0;
+            ofSixteen[1] += joined.partner() == 15 ? 1 : 0;
+            ofSixteen[2] += joined.drawn() == joined.own() ? 1 : 0;
+            ofSixteen[3] += joined.drawn() == joined.own() - 1 ? 1 : 0;
+        });
+        reached(ofSixteen);
+    }
+
+    private static int[][] sixteen() {
+        int[] times = {1, 2, 3, 4, 8};
+        int[][] planted = new int[16][3];
+        for (int i = 0; i < 15; i++) {
+            planted[i + 1][i / 5] = times[i % 5];
+        }
+        return planted;
     }
 
     private static void cutsWithinBoth() {
         int[] times = new int[5];
-        followJoinings(Probe.BY_LENGTH, ALL_FIVE, (x, joined) -> {
+        followJoinings(TRIALS, Probe.BY_LENGTH, ALL_FIVE, (x, joined) -> {
             boolean ownIsShorter = x.entry(joined.own(), 0) < x.entry(joined.partner(), 0);
             times[0] += joined.c() == 0 && joined.lesser() > 0 ? 1 : 0;
             times[1] += joined.c() == joined.lesser() && joined.c() > 0 && ownIsShorter ? 1 : 0;
@@ -165,7 +197,7 @@ final class JoiningBoundaries {
 
     private static void takesTheBytesOfBoth() {
         int[] times = new int[5];
-        followJoinings(SIX_OR_NOT, new int[][] {{1, 2, 3}, {11, 12, 13, 14, 15, 16}}, (x, joined) -> {
+        followJoinings(TRIALS, SIX_OR_NOT, new int[][] {{1, 2, 3}, {11, 12, 13, 14, 15, 16}}, (x, joined) -> {
             int n = joined.bytes(x).length;
             Expect.same("as many bytes as the partner", n, x.entry(joined.partner(), 0));
             times[0] += joined.c() == 0 ? 1 : 0;
@@ -177,7 +209,7 @@ final class JoiningBoundaries {
         reached(times);
         // Nothing is left of an entry without bytes but the partner, nor of a partner without bytes but nothing.
         int[] without = new int[2];
-        followJoinings(SIX_OR_NOT, new int[][] {{}, {11, 12, 13, 14, 15, 16}}, (x, joined) -> {
+        followJoinings(TRIALS, SIX_OR_NOT, new int[][] {{}, {11, 12, 13, 14, 15, 16}}, (x, joined) -> {
             Expect.same("c", joined.c(), 0);
             Expect.same("bytes", joined.bytes(x).length, joined.own() == 0 ? 6 : 0);
             without[joined.own()]++;
@@ -211,9 +243,7 @@ final class JoiningBoundaries {
 
     /** Makes the rest of the trials of the entry that is taken up, and tells the next one. */
     private static int nextBehind(EdgeCampaign x) {
-        for (int i = 0; i < TRIALS && !joinsNext(x); i++) {
-            x.fuzz(1);
-        }
+        goToJoining(x);
         x.fuzz(1);
         return x.current(0);
     }
@@ -264,18 +294,18 @@ final class JoiningBoundaries {
     /** The first seen edge has a top, which is favoured: so, going round, there is always one to be taken up. */
     private static void someOneIsAlwaysDue() {
         for (int seed = 1; seed <= 20; seed++) {
-            EdgeCampaign x = new Probe(seed, Probe.BY_LENGTH, new int[] {1, 2}).behind(0);
-            for (int i = 0; i < 200; i++) {
+            Probe probe = new Probe(seed, Probe.BY_LENGTH, new int[] {1, 2});
+            for (int trials = 0; trials < 200; trials += 3) {
+                EdgeCampaign x = probe.behind(trials);
                 int favoured = 0;
                 for (int e = 0; e < x.count(3); e++) {
                     favoured += x.entry(e, 4);
                 }
                 Expect.same("some are favoured", favoured > 0, true);
-                int taken = x.current(0);
-                int finished = x.entry(taken, 3);
-                x.fuzz(1);
+                nextBehind(x);
+                boolean isTakenUpNow = x.current(1) == 0 || x.current(1) == 16 * x.entry(x.current(0), 0);
                 boolean isDue = x.entry(x.current(0), 4) == 1 || x.entry(x.current(0), 3) == 0;
-                Expect.same("the next is due", isDue || x.entry(taken, 3) == finished, true);
+                Expect.same("the next one is due", !isTakenUpNow || isDue, true);
             }
         }
     }

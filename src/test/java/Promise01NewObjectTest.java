@@ -23,8 +23,9 @@ public final class Promise01NewObjectTest {
             Expect.same("current(" + which + ")", x.current(which), -1);
         }
         for (int from = 0; from < 24; from++) {
+            EdgeCampaign other = new EdgeCampaign(7);
             for (int to = 0; to < 24; to++) {
-                Expect.same("seen(" + from + ", " + to + ")", x.seen(from, to), 0);
+                Expect.same("seen(" + from + ", " + to + ")", other.seen(from, to), 0);
             }
         }
         Expect.same("NONE", EdgeCampaign.NONE, -1);

@@ -123,7 +123,7 @@ public final class Promise12CurrentTest {
         for (int e = 0; e < x.count(3); e++) {
             Expect.same("finished " + e, x.entry(e, 3) > 0, true);
         }
-        while (x.current(1) != 16) {
+        for (int i = 0; i < 50 && x.current(1) != 16; i++) {
             x.fuzz(1);
         }
         for (int i = 0; i < 3; i++) {
@@ -155,11 +155,12 @@ public final class Promise12CurrentTest {
     /** Works out from the answers of entry what must be taken up next, trial by trial. */
     private static void followsTheRule() {
         for (int seed = 1; seed <= 20; seed++) {
-            EdgeCampaign x = looping(seed);
-            Expect.plant(x, 4, 1);
-            Expect.plant(x);
-            Expect.plant(x, 2, 2, 2);
-            for (int i = 0; i < 400; i++) {
+            for (int trials = 0; trials < 300; trials++) {
+                EdgeCampaign x = looping(seed);
+                Expect.plant(x, 4, 1);
+                Expect.plant(x);
+                Expect.plant(x, 2, 2, 2);
+                Probe.fuzz(x, trials);
                 int e = x.current(0);
                 int next = x.current(1) + 1;
                 int energy = x.current(2);

@@ -87,45 +87,53 @@ final class PromiseBoundaries {
         Expect.same("current", x.current(3), -1);
     }
 
-    /** Two campaigns with the same calls, and one of them with refused calls in between. */
+    /** The calls of a campaign: emit, feed, plant and fuzz. At one moment the draft has six bytes. */
+    private static final int[][] SCRIPT = {
+        {'e', 2, 0, 1}, {'e', 1, 2, -1}, {'e', 3, 0, 2}, {'e', 7, 0, 5}, {'e', 8, 0, 2}, {'e', 15, 0, 0}, {'e', 12, 0, 2},
+        {'z', 5}, {'f', 3}, {'p'}, {'z', 20}, {'f', 9}, {'f', 9}, {'p'}, {'z', 7}, {'f', 1}, {'f', 0}, {'f', 255}, {'f', 4},
+        {'z', 20}, {'f', 5}, {'f', 6}, {'p'}, {'p'}, {'z', 1}, {'z', 20}, {'z', 20}
+    };
+
+    private static int answer(EdgeCampaign x, int[] call) {
+        return switch (call[0]) {
+            case 'e' -> x.emit(call[1], call[2], call[3]) ? 1 : 0;
+            case 'f' -> x.feed(call[1]) ? 1 : 0;
+            case 'p' -> x.plant();
+            default -> x.fuzz(call[1]);
+        };
+    }
+
+    /** At each moment of a campaign, refused calls are made; then it goes on as another one goes on without them. */
     private static void refusedCallsChangeNothing() {
-        EdgeCampaign plain = new EdgeCampaign(11);
-        EdgeCampaign x = new EdgeCampaign(11);
-        int[][] rows = {{2, 0, 1}, {1, 2, -1}, {3, 0, 2}, {7, 0, 5}, {8, 0, 2}, {15, 0, 0}, {12, 0, 2}};
-        for (int[] row : rows) {
-            makeRefusedCalls(x);
-            Expect.same("emit", x.emit(row[0], row[1], row[2]), plain.emit(row[0], row[1], row[2]));
-        }
-        for (int round = 0; round < 8; round++) {
-            for (int i = 0; i < round % 7; i++) {
-                makeRefusedCalls(x);
-                Expect.same("feed", x.feed(3 * round + i), plain.feed(3 * round + i));
+        for (int moment = 0; moment <= SCRIPT.length; moment++) {
+            EdgeCampaign plain = new EdgeCampaign(11);
+            EdgeCampaign x = new EdgeCampaign(11);
+            int bytes = 0;
+            boolean wasExecuted = false;
+            for (int i = 0; i < SCRIPT.length; i++) {
+                if (i == moment) {
+                    makeRefusedCalls(x);
+                    Expect.same("emit behind an execution", wasExecuted && x.emit(12, 0, 0), false);
+                    Expect.same("a seventh byte", bytes == 6 && x.feed(7), false);
+                }
+                Expect.same("call " + i + ", refused ones at " + moment, answer(x, SCRIPT[i]), answer(plain, SCRIPT[i]));
+                wasExecuted |= SCRIPT[i][0] == 'p';
+                bytes = SCRIPT[i][0] == 'p' ? 0 : bytes + (SCRIPT[i][0] == 'f' ? 1 : 0);
             }
-            makeRefusedCalls(x);
-            if (round % 7 == 6) {
-                Expect.same("a seventh byte", x.feed(5), false);
-            }
-            Expect.same("plant", x.plant(), plain.plant());
-            makeRefusedCalls(x);
-            Expect.same("emit behind an execution", x.emit(12, 0, 0), false);
-            Expect.same("fuzz", x.fuzz(20), plain.fuzz(20));
-            Expect.same("fuzz", x.fuzz(round + 1), plain.fuzz(round + 1));
-            Expect.sameText("all that can be asked", Expect.all(x), Expect.all(plain));
+            Expect.sameText("refused calls at " + moment, Expect.all(x), Expect.all(plain));
+            Expect.same("entries and findings came", x.count(3) > 2 && x.count(4) > 0, true);
         }
-        // A 25th instruction and a seventh byte, and then the same as without them.
+        // A 25th instruction is refused, and the program is as long as before.
         EdgeCampaign full = new EdgeCampaign(1);
         for (int i = 0; i < 24; i++) {
             full.emit(15, 3, 0);
         }
         Expect.same("a 25th instruction", full.emit(12, 0, 0), false);
-        for (int i = 0; i < 6; i++) {
-            full.feed(i);
-        }
-        Expect.same("a seventh byte", full.feed(9), false);
         Expect.same("the program ends", full.plant(), 0);
     }
 
     private static void newObjectsAreEmpty() {
+        String first = Expect.all(new EdgeCampaign(7));
         EdgeCampaign x = new EdgeCampaign(7);
         for (int which = 0; which <= 6; which++) {
             Expect.same("count(" + which + ")", x.count(which), 0);
@@ -148,8 +156,7 @@ final class PromiseBoundaries {
         EdgeCampaign other = looping(7);
         Expect.plant(other, 3, 3);
         other.fuzz(20);
-        Expect.sameText("another new object", Expect.all(new EdgeCampaign(7)), Expect.all(new EdgeCampaign(7)));
-        Expect.same("its executions", new EdgeCampaign(7).count(0), 0);
+        Expect.sameText("another new object", Expect.all(new EdgeCampaign(7)), first);
     }
 
     private static void seedZeroIsOne() {
@@ -286,8 +293,8 @@ final class PromiseBoundaries {
             for (int i = 0; i < n; i++) {
                 Expect.same("fuzz(1)", single.fuzz(1), 1);
             }
-            Expect.sameText("one by one", Expect.all(single), Expect.all(x));
         }
+        Expect.sameText("one by one", Expect.all(single), Expect.all(x));
     }
 
     private static void fuzzNeedsAnEntry() {

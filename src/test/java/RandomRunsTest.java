@@ -2,8 +2,11 @@ import java.util.Random;
 
 /** Long runs of calls, each answer compared with that of Reference. The seeds are fixed: every time is the same. */
 public final class RandomRunsTest {
-    private static final int RUNS = 600;
+    private static final int RUNS = 1000;
+    /** An object has 512 calls at most; the last ones ask for what the others led to. */
     private static final int CALLS = 512;
+    private static final int LAST_QUESTIONS = 130;
+    private static final int MOST_CALLS_AT_ONCE = 12;
 
     private static int fullStores = 0;
     private static int fullFindings = 0;
@@ -43,12 +46,12 @@ public final class RandomRunsTest {
             calls += climb(run, random, x, due);
         }
         int plants = 1 + random.nextInt(20);
-        while (calls < CALLS) {
+        while (calls < CALLS - LAST_QUESTIONS - MOST_CALLS_AT_ONCE) {
             calls += plants > 0 ? onePlant(run, random, x, due) : 0;
             plants--;
-            calls += oneCall(run, random, x, due, calls < 300 && run % 4 < 3);
+            calls += oneCall(run, random, x, due, calls < 200 && run % 4 < 3);
         }
-        compareAll(run, x, due);
+        askInTheEnd(run, random, x, due);
         countWhatWasReached(due);
     }
 
@@ -188,23 +191,39 @@ public final class RandomRunsTest {
         return 2;
     }
 
-    private static void compareAll(int run, EdgeCampaign x, Reference due) {
-        for (int which = -1; which <= 9; which++) {
+    private static void askInTheEnd(int run, Random random, EdgeCampaign x, Reference due) {
+        for (int which = -1; which <= 7; which++) {
             same(run, "count " + which, x.count(which), due.count(which));
+        }
+        for (int which = 0; which <= 2; which++) {
             same(run, "current " + which, x.current(which), due.current(which));
-            for (int i = -1; i <= 17; i++) {
-                same(run, "entry " + i + " " + which, x.entry(i, which), due.entry(i, which));
-                same(run, "entryByte", x.entryByte(i, which), due.entryByte(i, which));
-                same(run, "finding " + i + " " + which, x.finding(i, which), due.finding(i, which));
-                same(run, "findingByte", x.findingByte(i, true, which), due.findingByte(i, true, which));
-                same(run, "findingByte", x.findingByte(i, false, which), due.findingByte(i, false, which));
+        }
+        for (int i = 12; i < LAST_QUESTIONS; i++) {
+            int e = random.nextInt(due.entries.size() + 1);
+            int c = random.nextInt(due.traps.size() + 1);
+            int k = random.nextInt(8) - 1;
+            int which = random.nextInt(10);
+            switch (i % 6) {
+                case 0 -> same(run, "entry " + e + " " + which, x.entry(e, which), due.entry(e, which));
+                case 1 -> same(run, "entryByte " + e + " " + k, x.entryByte(e, k), due.entryByte(e, k));
+                case 2 -> same(run, "finding " + c + " " + which, x.finding(c, which), due.finding(c, which));
+                case 3 -> same(run, "input " + c + " " + k, x.findingByte(c, false, k), due.findingByte(c, false, k));
+                case 4 -> same(run, "shortest " + c + " " + k, x.findingByte(c, true, k), due.findingByte(c, true, k));
+                default -> askForAnEdge(run, random, x, due, e);
             }
         }
-        for (int from = -1; from <= 24; from++) {
-            for (int to = -1; to <= 24; to++) {
-                same(run, "seen " + from + " " + to, x.seen(from, to), due.seen(from, to));
-            }
+    }
+
+    /** Few pairs of places are edges: so one of an entry's is asked for, or one that is near to it. */
+    private static void askForAnEdge(int run, Random random, EdgeCampaign x, Reference due, int e) {
+        int number = random.nextInt(576);
+        if (e < due.entries.size()) {
+            Integer[] edges = due.entries.get(e).run.edges().keySet().toArray(new Integer[0]);
+            number = edges[random.nextInt(edges.length)];
         }
+        int from = number / 24;
+        int to = number % 24 + (random.nextInt(4) == 0 ? 1 : 0);
+        same(run, "seen " + from + " " + to, x.seen(from, to), due.seen(from, to));
     }
 
     private static void same(int run, String what, int got, int due) {

@@ -34,7 +34,7 @@ public final class RoomTest {
         x.feed(3);
         x.feed(3);
         x.plant();
-        for (int call = 11; call < CALLS; call++) {
+        for (int call = 11; call < CALLS - 1; call++) {
             x.fuzz(20);
         }
     }

@@ -386,6 +386,19 @@ final class RunBoundaries {
         Expect.same("findings", turned.count(4), 2);
         sign(turned, 0, 1, 6, 2, 5, 3, 0, 2);
         sign(turned, 1, 1, 6, 2, 3, 5, 0, 1);
+        // The latest place is the same, and the one below it differs; then a third one is above both.
+        EdgeCampaign below = Expect.campaign(1, row(15, 0, 0), row(6, 0, 4), row(9, 0, 6), row(0, 0, 0), row(9, 0, 6),
+            row(0, 0, 0), row(9, 0, 8), row(0, 0, 0), row(12, 3, 0));
+        Expect.plant(below, 1);
+        below.plant();
+        sign(below, 0, 1, 8, 2, 7, 3, 0, 1);
+        sign(below, 1, 1, 8, 2, 7, 5, 0, 1);
+        EdgeCampaign deepest = Expect.campaign(1, row(15, 0, 0), row(6, 0, 4), row(9, 0, 6), row(0, 0, 0), row(9, 0, 6),
+            row(0, 0, 0), row(9, 0, 8), row(0, 0, 0), row(9, 0, 10), row(0, 0, 0), row(12, 3, 0));
+        Expect.plant(deepest, 1);
+        deepest.plant();
+        sign(deepest, 0, 1, 10, 3, 9, 7, 3, 1);
+        sign(deepest, 1, 1, 10, 3, 9, 7, 5, 1);
         // As many calls as bytes, from one place alone: only the number of places differs.
         EdgeCampaign deep = Expect.campaign(1, row(15, 0, 0), row(1, 1, -1), row(3, 0, 1), row(7, 0, 5), row(9, 0, 2),
             row(12, 3, 0));

@@ -155,6 +155,8 @@ final class ShortestBoundaries {
         shortest(2, 123, 12, 2);
         // One byte in one part: what is left has no bytes, and it is over.
         shortest(0, 5, 0);
+        // A byte at a time: 1 with four parts, 5 with five behind three, 3 with four, and then nothing more.
+        shortest(246, 123456, 23456, 2346, 246);
         // What is left traps at the same place, but with another place on the stack: from 4 with four bytes or more.
         EdgeCampaign called = Expect.campaign(1, row(15, 0, 0), row(1, 1, -4), row(3, 0, 1), row(7, 0, 6), row(9, 0, 7),
             row(0, 0, 0), row(9, 0, 7), row(12, 3, 0));
