@@ -202,12 +202,12 @@ public final class EdgeCampaign {
             return place >= 0 && place < PLACES;
         }
 
-        boolean has(int place) {
-            return place >= 0 && place < size;
+        static boolean isJump(int op) {
+            return op >= JUMP_IF_ZERO && op <= RETURN;
         }
 
-        boolean isJump(int place) {
-            return has(place) && ops[place] >= JUMP_IF_ZERO && ops[place] <= RETURN;
+        boolean has(int place) {
+            return place >= 0 && place < size;
         }
 
         boolean append(int op, int a, int b) {
@@ -377,9 +377,10 @@ public final class EdgeCampaign {
             here = pc;
             pc = here + 1;
             steps++;
+            int op = program.ops[here];
             int a = program.as[here];
             int b = program.bs[here];
-            switch (program.ops[here]) {
+            switch (op) {
                 case Program.SET -> registers[a] = b;
                 case Program.READ -> registers[a] = input.at(registers[b]);
                 case Program.ADD -> registers[a] += registers[b];
@@ -397,7 +398,7 @@ public final class EdgeCampaign {
                 case Program.LENGTH -> registers[a] = input.size;
                 default -> outcome = ENDED;
             }
-            if (outcome == GOING && program.isJump(here) && program.has(pc)) {
+            if (outcome == GOING && Program.isJump(op) && program.has(pc)) {
                 goAlong(Program.PLACES * here + pc);
             }
         }

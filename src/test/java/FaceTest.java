@@ -1,9 +1,14 @@
+import java.io.IOException;
 import java.lang.reflect.Constructor;
 import java.lang.reflect.Field;
 import java.lang.reflect.Method;
 import java.lang.reflect.Modifier;
+import java.nio.file.Files;
+import java.nio.file.Path;
 import java.util.Arrays;
 import java.util.TreeSet;
+import java.util.regex.Matcher;
+import java.util.regex.Pattern;
 
 /** The class shows what the document's face has, and nothing else. */
 public final class FaceTest {
@@ -13,13 +18,30 @@ public final class FaceTest {
         "int findingByte(int, boolean, int)", "int current(int)", "int state()"
     };
 
-    public static void main(String[] args) {
+    private static final Path DOCUMENT = Path.of("../shared/DOC.md");
+
+    public static void main(String[] args) throws IOException {
         Expect.same("a public final class", EdgeCampaign.class.getModifiers(), Modifier.PUBLIC | Modifier.FINAL);
+        isTheDocumentsFace();
         showsTheMethods();
         showsTheConstant();
         showsTheConstructor();
         hidesNestedState();
         Expect.done();
+    }
+
+    /** The names of the parameters are no part of the face. */
+    private static void isTheDocumentsFace() throws IOException {
+        if (!Files.exists(DOCUMENT)) {
+            System.out.println("the document is not there: its face is not compared");
+            return;
+        }
+        TreeSet<String> due = new TreeSet<>();
+        Matcher lines = Pattern.compile("(?m)^    public ((?:int|boolean) \\w+\\(.*\\));$").matcher(Files.readString(DOCUMENT));
+        while (lines.find()) {
+            due.add(lines.group(1).replaceAll("(int|boolean) \\w+(?=[,)])", "$1"));
+        }
+        Expect.sameText("the document's methods", new TreeSet<>(Arrays.asList(FACE)).toString(), due.toString());
     }
 
     private static void showsTheMethods() {

@@ -58,9 +58,13 @@ final class Sentence {
         Expect.sameText("sentences without a test", left.toString().trim().replaceAll("\\s+", " "), "");
     }
 
-    /** The words of 'Terms' and of the promises, without headings, fences and the heads of the methods. */
+    /** The words of 'What it is', 'Terms' and the promises, without headings, fences and the heads of the methods. */
     private static String promised(String document) {
-        String part = document.substring(document.indexOf("## Terms"), document.indexOf("## Not promised"));
+        String part = between(document, "## What it is", "## The public face") + between(document, "## Terms", "## Not promised");
         return part.replaceAll("(?m)^(##|```).*$", "").replaceAll("(?m)^`[^`]*`: ", "").replaceAll("\\s+", " ");
+    }
+
+    private static String between(String document, String from, String to) {
+        return document.substring(document.indexOf(from), document.indexOf(to));
     }
 }
